@@ -181,7 +181,7 @@ public final class LightSails {
     }
 
     public int asks() {
-        int rule = voyage.firstRule(sail, steering);
+        int rule = voyage.firstRule(sail, steering, sail.strength());
         return rule == NONE ? NO_ANSWER : 10 * rule + steering.steerOf(rule);
     }
 
@@ -1426,14 +1426,14 @@ public final class LightSails {
             return dustCount;
         }
 
-        private int firstRule(Sail sail, Rules rules) {
+        private int firstRule(Sail sail, Rules rules, int strength) {
             boolean hasGoal = hasWorld(goal);
             values[0] = rho;
             values[1] = angle;
             values[2] = day;
             values[3] = hasGoal ? worlds[goal].rho - rho : 0;
             values[4] = hasGoal ? Math.floorMod(worlds[goal].angleOn(day) - angle, ROUND) : 0;
-            values[5] = stepsAt(rho, sail.strength());
+            values[5] = stepsAt(rho, strength);
             values[6] = sail.tornPanels();
             return rules.firstHolding(values);
         }
@@ -1451,7 +1451,7 @@ public final class LightSails {
 
         private void flyDay(Sail sail, Rules rules) {
             int strength = sail.strength();
-            int rule = firstRule(sail, rules);
+            int rule = firstRule(sail, rules, strength);
             int steer = rule == NONE ? KEEP : rules.steerOf(rule);
             if (!within(rhoBehind(rho, steer, strength), 0, MOST_RHO)) {
                 steer = KEEP;
