@@ -941,12 +941,9 @@ public final class LightSails {
                     low |= layers[former + 2 * (rho + steps)];
                     high |= layers[former + 2 * (rho + steps) + 1];
                 }
-                storeTurned(days * LAYER + 2 * rho, low, high, aheadBefore(rho));
+                int back = Math.floorMod(worldSpeed - turnOfDay(rho), Voyage.ROUND);
+                storeTurned(days * LAYER + 2 * rho, low, high, back);
             }
-        }
-
-        private int aheadBefore(int rho) {
-            return Math.floorMod(worldSpeed - turnOfDay(rho), Voyage.ROUND);
         }
 
         /** Stores 72 bits with each one set on by a turn of 0 to 71. */
@@ -1084,19 +1081,19 @@ public final class LightSails {
                 demand(']');
                 opens--;
             } else {
-                readComparing();
+                readSum();
+                int sign = kind;
+                demandComparing();
+                readSum();
+                result.add(-sign);
             }
         }
 
-        private void readComparing() {
-            readSum();
-            int sign = kind;
-            if (sign != '<' && sign != '>' && sign != '=') {
+        private void demandComparing() {
+            if (kind != '<' && kind != '>' && kind != '=') {
                 refuse(WRONG_SIGN);
             } else if (goesOn()) {
                 scan();
-                readSum();
-                result.add(-sign);
             }
         }
 
@@ -1173,9 +1170,9 @@ public final class LightSails {
             next = at;
             if (at >= length) {
                 kind = Rules.END;
-            } else if (isLetter(text[at])) {
+            } else if (text[at] >= 'a' && text[at] <= 'z') {
                 scanWord();
-            } else if (isDigit(text[at])) {
+            } else if (text[at] >= '0' && text[at] <= '9') {
                 scanNumber();
             } else {
                 kind = text[at];
@@ -1183,43 +1180,27 @@ public final class LightSails {
             }
         }
 
-        private static boolean isLetter(int sign) {
-            return within(sign, 'a', 'z');
-        }
-
-        private static boolean isDigit(int sign) {
-            return within(sign, '0', '9');
-        }
-
         private void scanWord() {
-            while (next < length && isLetter(text[next])) {
+            while (next < length && text[next] >= 'a' && text[next] <= 'z') {
                 next++;
             }
             kind = Rules.STRANGE;
-            for (int word = 0; word < Rules.WORD_COUNT; word++) {
-                if (isWord(word)) {
+            for (int word = 0; word < Rules.WORD_COUNT && next - at <= Rules.WIDTH; word++) {
+                int same = 0;
+                for (int i = 0; i < Rules.WIDTH; i++) {
+                    int sign = at + i < next ? text[at + i] : ' ';
+                    same += sign == Rules.WORDS.charAt(word * Rules.WIDTH + i) ? 1 : 0;
+                }
+                if (same == Rules.WIDTH) {
                     kind = Rules.IN + word;
                 }
             }
         }
 
-        private boolean isWord(int word) {
-            if (next - at > Rules.WIDTH) {
-                return false;
-            }
-            for (int i = 0; i < Rules.WIDTH; i++) {
-                int sign = at + i < next ? text[at + i] : ' ';
-                if (sign != Rules.WORDS.charAt(word * Rules.WIDTH + i)) {
-                    return false;
-                }
-            }
-            return true;
-        }
-
         private void scanNumber() {
             kind = Rules.NUMBER;
             number = 0;
-            while (next < length && isDigit(text[next])) {
+            while (next < length && text[next] >= '0' && text[next] <= '9') {
                 // Digits behind a number that is too great do not matter, and would wrap.
                 if (number <= MOST_NUMBER) {
                     number = 10 * number + text[next] - '0';
@@ -1407,10 +1388,10 @@ public final class LightSails {
             int best = NONE;
             int bestDays = NONE;
             for (int waiting = 0; waiting <= MOST_WAITING; waiting++) {
-                int days = daysInAll(world, waiting, strength);
-                if (days != NONE && (best == NONE || days < bestDays)) {
+                int fewest = fewestDays(world, waiting, strength);
+                if (fewest != NONE && (best == NONE || waiting + fewest < bestDays)) {
                     best = waiting;
-                    bestDays = days;
+                    bestDays = waiting + fewest;
                 }
             }
             return best;

@@ -200,6 +200,9 @@ public final class RulesTest {
         holds("not not 1=1", true);
         holds("1=2 or 1=2", false);
         holds("1=2 or 1=1", true);
+        // As deep as it goes: every sum, product and pair is begun when the innermost is worked.
+        holds("1=2 or 1=1 and 8=" + "1+1*most(1,".repeat(6) + "1+1*1" + ")".repeat(6), true);
+        holds("not [not [1=2 or 1=1 and 6=" + "1+1*most(1,".repeat(2) + "1+1*1+2" + ")".repeat(2) + "]]", true);
         // 9,999 five times over wraps in 32 bits: 9999 ^ 3 is 999,700,029,999.
         holds("9999*9999*9999=" + wrapped(), true);
         holds("9999*9999*22>0", false);
