@@ -858,15 +858,19 @@ public final class LightSails {
         private static final int HALF = 36;
         private static final long HALF_BITS = (1L << HALF) - 1;
         private static final int LAYER = 2 * (Voyage.MOST_RHO + 1);
-        private final int worldRho;
         private final int worldSpeed;
         private int strength = NONE;
         private int known;
         private final long[] layers = new long[(MOST_DAYS + 1) * LAYER];
 
         private Chart(int worldRho, int worldSpeed) {
-            this.worldRho = worldRho;
             this.worldSpeed = worldSpeed;
+            int low = Math.max(0, worldRho - RHO_ENDS);
+            int high = Math.min(Voyage.MOST_RHO, worldRho + RHO_ENDS);
+            for (int rho = low; rho <= high; rho++) {
+                layers[2 * rho] = (1L << (ANGLE_ENDS + 1)) - 1;
+                layers[2 * rho + 1] = HALF_BITS ^ HALF_BITS >>> ANGLE_ENDS;
+            }
         }
 
         private static boolean isMet(int rhoAway, int ahead) {
@@ -874,21 +878,11 @@ public final class LightSails {
             return near && Math.abs(rhoAway) <= RHO_ENDS;
         }
 
-        /** Layers are worked for one strength, and only as far as asked for. */
+        /** The first layer serves for all; others are worked for one strength, and only as far as asked for. */
         private void fitTo(int newStrength) {
-            if (strength == newStrength) {
-                return;
-            }
-            strength = newStrength;
-            known = 1;
-            for (int i = 0; i < LAYER; i++) {
-                layers[i] = 0L;
-            }
-            int low = Math.max(0, worldRho - RHO_ENDS);
-            int high = Math.min(Voyage.MOST_RHO, worldRho + RHO_ENDS);
-            for (int rho = low; rho <= high; rho++) {
-                layers[2 * rho] = (1L << (ANGLE_ENDS + 1)) - 1;
-                layers[2 * rho + 1] = HALF_BITS ^ HALF_BITS >>> ANGLE_ENDS;
+            if (strength != newStrength) {
+                strength = newStrength;
+                known = 1;
             }
         }
 

@@ -47,12 +47,16 @@ public final class FlightTest {
         for (int i = 0; i < 3; i++) {
             x.panel(0, 0, 100, 50, 50);
         }
+        x.panel(0, 0, 100, 50, 50);
         x.dust(1, 2);
         x.dust(2, 2);
         x.dust(0, 4);
+        CHECK.same("day 0", x.dust(3, 0), 4);
+        CHECK.no("nothing tore yet", x.of(3, 2) == 1);
         int[][] due = {{0, 0, 0}, {0, 0, 0}, {0, 1, 1}, {0, 1, 1}, {1, 1, 1}};
         for (int day = 0; day < 5; day++) {
             x.fly(1);
+            CHECK.same("panel 3", x.of(3, 2), 1);
             for (int i = 0; i < 3; i++) {
                 CHECK.same("panel " + i + " behind day " + day, x.of(i, 2), due[day][i]);
             }

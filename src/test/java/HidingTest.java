@@ -156,6 +156,16 @@ public final class HidingTest {
         x.sight(0, 2, 0);
         CHECK.same("one fit", x.fits(1), 1);
         CHECK.same("all slants are alike then", x.shows(1), -8);
+        LightSails y = new LightSails();
+        int[][] flaps = {{4, -1}, {28, -2}};
+        for (int i = 0; i < 2; i++) {
+            y.panel(0, 0, flaps[i][0], 0, 0);
+            y.flap(i);
+            y.bend(i, flaps[i][1]);
+        }
+        y.coat(60, 23);
+        y.coat(44, 49);
+        CHECK.same("the last slant alone", y.shows(2), 8);
     }
 
     private static void testTornPanel() {

@@ -14,6 +14,7 @@ public final class NetTest {
         testFreeLine();
         testHeldPair();
         testEaseOfMany();
+        testFreeKnots();
         testCut();
         testAgainstSimplex();
         testGreatNumbers();
@@ -206,6 +207,32 @@ public final class NetTest {
         ease(x, 6, 1);
         CHECK.yes("the lower bears", !x.slack(3) && x.taut(3));
         CHECK.yes("others may help it", x.taut(0) && x.slack(0));
+    }
+
+    /** All six knots free, three of them on a line: strings there are not independent. */
+    private static void testFreeKnots() {
+        LightSails x = new LightSails();
+        Model m = new Model();
+        int[][] spots = {{-2, 0}, {0, 0}, {3, 0}, {0, 4}, {5, 5}, {-5, 2}};
+        for (int[] s : spots) {
+            x.knot(s[0], s[1], false);
+            m.knot(s[0], s[1], false);
+        }
+        int[][] strings = {{0, 1}, {1, 2}, {0, 2}, {1, 3}, {3, 4}, {4, 5}};
+        for (int[] s : strings) {
+            x.string(s[0], s[1]);
+            m.string(s[0], s[1]);
+        }
+        compare(x, m);
+        x.pull(0, -12, 0);
+        m.pull(0, -12, 0);
+        compare(x, m);
+        x.pull(2, 12, 0);
+        m.pull(2, 12, 0);
+        compare(x, m);
+        // Drawn apart from end to end: the long string bears with 12 by 5.
+        ease(x, 12, 5);
+        CHECK.yes("or both short ones", x.slack(2) && x.taut(0) && x.taut(1));
     }
 
     private static void testCut() {

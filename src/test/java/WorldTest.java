@@ -12,6 +12,7 @@ public final class WorldTest {
         testGoal();
         testLate();
         testWindow();
+        testFromEnds();
         testAgainstModel();
         CHECK.end("WorldTest");
     }
@@ -151,6 +152,33 @@ public final class WorldTest {
         CHECK.same("no way behind 2 days", y.late(0, 2), -1);
         CHECK.same("40 days behind 3", y.late(0, 3), 43);
         CHECK.same("window", y.window(0), 3);
+    }
+
+    /** From the ends of rho, where some steers can't be. */
+    private static void testFromEnds() {
+        Random r = new Random(255);
+        for (int run = 0; run < 60; run++) {
+            LightSails x = new LightSails();
+            Model m = new Model();
+            for (int i = r.nextInt(3); i >= 0; i--) {
+                int area = 1 + r.nextInt(1000);
+                x.panel(0, 0, area, 100, 0);
+                m.panel(0, 0, area, 100, 0);
+            }
+            String text = run % 3 == 0 ? "in if 1=1;" : "out if 1=1;";
+            Texts.tell(x, text);
+            int[] five = Texts.five(text, 0);
+            m.feed(five[0], five[1], five[2], five[3], five[4]);
+            m.rules(text.length());
+            CHECK.same("fly", x.fly(160), m.fly(160));
+            int rho = run % 3 == 0 ? r.nextInt(60) : 255 - r.nextInt(60);
+            int[] w = {rho, r.nextInt(72), r.nextInt(11)};
+            x.world(w[0], w[1], w[2]);
+            m.world(w[0], w[1], w[2]);
+            for (int what = -1; what < 40; what += 1 + r.nextInt(3)) {
+                CHECK.same("least", x.least(0, what), m.least(0, what));
+            }
+        }
     }
 
     private static void testAgainstModel() {
