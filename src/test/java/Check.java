@@ -2,9 +2,15 @@
 final class Check {
     private int right;
     private int wrong;
+    private String test = "";
 
     interface Call {
         long answer();
+    }
+
+    /** The name of the test that follows stands ahead of each answer that is not as due. */
+    void begin(String name) {
+        test = name + ": ";
     }
 
     /** An answer that is due. */
@@ -15,7 +21,7 @@ final class Check {
         }
         wrong++;
         if (wrong <= 40) {
-            System.out.println(what + " answered " + got + ", due is " + due);
+            System.out.println(test + what + " answered " + got + ", due is " + due);
         }
     }
 
@@ -37,7 +43,7 @@ final class Check {
         }
         boolean is = got.equals(due.getSimpleName());
         if (!is) {
-            System.out.println(what + ": " + got + ", due is " + due.getSimpleName());
+            System.out.println(test + what + ": " + got + ", due is " + due.getSimpleName());
         }
         same(what, is ? 1 : 0, 1);
     }
