@@ -364,17 +364,12 @@ public final class LightSails {
         return within(m, 1, Hiding.MOST_HIDDEN) && m <= sail.panelCount;
     }
 
-    /** Light thins out with rho: an amount by (rho and 32), cut. */
-    private static int thinned(int amount, int rho) {
-        return within(rho, 0, Voyage.MOST_RHO) ? amount / (rho + 32) : 0;
-    }
-
     private static int stepsAt(int rho, int strength) {
-        return 1 + thinned(strength * 32, rho);
+        return rho < 0 ? 1 : 1 + strength * 32 / (rho + 32);
     }
 
     private static int turnOfDay(int rho) {
-        return 1 + thinned(320, rho);
+        return rho < 0 ? 1 : 1 + 320 / (rho + 32);
     }
 
     private static int rhoBehind(int rho, int steer, int strength) {
@@ -662,7 +657,7 @@ public final class LightSails {
         }
 
         private void live(int rho, boolean ages) {
-            boolean warm = thinned(kept * 100 * 32, rho) / 100 > 20;
+            boolean warm = rho >= 0 && kept * 100 * 32 / (rho + 32) / 100 > 20;
             warmDays = warm ? warmDays + 1 : 0;
             if (warmDays == DAYS_TO_CURL) {
                 warmDays = 0;

@@ -506,6 +506,16 @@ public final class P09To18Test {
         // 766 * 766 by 1,000 is 586.
         check.same("the last row", x.trim(2, -1), 4 * 10 * 586);
         check.same("the first row", x.trim(-2, -1), 4 * 10 * 586);
+        // Two that are unlike, 1,000 at 1 and 500 at -2: straight they press by 1,000 and 500, bent by 1 by 970 and 485,
+        // bent by 2 by 883 and 441, so that -1 and -1 is the first row that is even.
+        LightSails unlike = new LightSails();
+        unlike.panel(1, 0, 1000, 0, 100);
+        unlike.panel(-2, 0, 500, 0, 100);
+        unlike.flap(0);
+        unlike.flap(1);
+        check.same("even", unlike.trim(0, -1), 0);
+        check.same("flap 0", unlike.trim(0, 0), -1);
+        check.same("flap 1", unlike.trim(0, 1), -1);
         // A flap that was free and is stuck now, and one that is free again.
         x.stuck(1, true);
         check.same("stuck at 0", x.trim(2, 1), 0);

@@ -402,6 +402,21 @@ public final class P27To29Test {
         }
     }
 
+    @Says("NOTES: of the latest 64 DAYS flown: STEER, RHO, ANGLE behind it,")
+    static void p29SteerThatWasFlown(Check check) {
+        // "the first RULE that holds tells STEER (none: keep); if that can't be, keep."
+        LightSails x = Things.at(0);
+        int day = x.count(0);
+        Texts.tell(x, "in if day<" + (day + 2) + ";out if day=" + (day + 2) + ";");
+        x.fly(4);
+        int[] steers = {1, 1, 2, 1};
+        int[] rhos = {0, 0, 1, 1};
+        for (int i = 0; i < 4; i++) {
+            check.same("steer of " + i, x.note(day + i, 0), steers[i]);
+            check.same("rho of " + i, x.note(day + i, 1), rhos[i]);
+        }
+    }
+
     @Says({"NONE: it is not kept.", "NOTES: of the latest 64 DAYS flown: STEER, RHO, ANGLE behind it,"})
     static void p29Latest64Days(Check check) {
         LightSails x = new LightSails();

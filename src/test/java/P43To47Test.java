@@ -115,10 +115,13 @@ public final class P43To47Test {
         cost.offer(0, 0, 10, 4);
         cost.offer(0, 0, 10, 3);
         sheet(check, cost, 4, 0, 2, 10, 3, 0, 0);
-        LightSails first3 = new LightSails();
-        first3.offer(-20, 0, 10, 3);
-        first3.offer(20, 0, 10, 4);
-        sheet(check, first3, 4, 200, 1, 10, 3, -200, 0);
+        // Whichever comes first, and whichever way it turns.
+        for (int side = -20; side <= 20; side += 40) {
+            LightSails turning = new LightSails();
+            turning.offer(side, -side, 10, 3);
+            turning.offer(-side, side, 10, 4);
+            sheet(check, turning, 4, 200, 1, 10, 3, 10 * side, -10 * side);
+        }
         // 0 and 2, or 1 and 3 .. : the set that has the least offer which the other lacks.
         sheet(check, offers(12, 0, 0, 7, 3), 9, 0, 7, 21, 9, 0, 0);
         LightSails first = new LightSails();
