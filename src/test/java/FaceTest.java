@@ -9,6 +9,8 @@ import java.nio.file.Path;
 import java.util.Arrays;
 import java.util.Set;
 import java.util.TreeSet;
+import java.util.regex.Matcher;
+import java.util.regex.Pattern;
 
 /** The public face, and what LANGUAGE.md asks of the file as a whole. */
 public final class FaceTest {
@@ -27,6 +29,7 @@ public final class FaceTest {
     public static void main(String[] args) throws IOException {
         Check check = new Check();
         testFace(check);
+        testDocument(check);
         testMembers(check);
         testSource(check);
         check.end("FaceTest");
@@ -53,6 +56,34 @@ public final class FaceTest {
         check.same("constructors", makers.length, 1);
         check.yes("the constructor is public", Modifier.isPublic(makers[0].getModifiers()));
         check.same("its arguments", makers[0].getParameterCount(), 0);
+    }
+
+    /** The face as the document writes it out, with what each method throws, in its order. */
+    private static void testDocument(Check check) throws IOException {
+        Path path = Path.of("../shared/DOC.md");
+        if (!Files.exists(path)) {
+            System.out.println("FaceTest: there is no " + path);
+            return;
+        }
+        String document = Files.readString(path);
+        int from = document.indexOf("```java");
+        String written = document.substring(from, document.indexOf("```", from + 3));
+        check.yes("NONE is -1", written.contains("public static final int NONE = -1;") && LightSails.NONE == -1);
+        Set<String> due = new TreeSet<>();
+        Matcher row = Pattern.compile("public (\\w+ \\w+)\\((.*?)\\)(?: throws (.*?))?;").matcher(written);
+        while (row.find()) {
+            due.add(row.group(1) + "(" + row.group(2).replaceAll(" \\w+(, |$)", "$1") + ") " + row.group(3));
+        }
+        Set<String> got = new TreeSet<>();
+        for (Method method : LightSails.class.getDeclaredMethods()) {
+            if (Modifier.isPublic(method.getModifiers())) {
+                Object[] thrown = Arrays.stream(method.getExceptionTypes()).map(Class::getSimpleName).toArray();
+                String rest = Arrays.toString(thrown);
+                got.add(signature(method) + " " + (thrown.length == 0 ? null : rest.substring(1, rest.length() - 1)));
+            }
+        }
+        check.same("methods in the document", due.size(), FACE.length);
+        check.yes("the document's face is " + due + ", the class has " + got, due.equals(got));
     }
 
     private static void testMembers(Check check) {
